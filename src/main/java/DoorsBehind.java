@@ -814,7 +814,7 @@ public final class DoorsBehind {
         void become(House other) {
             System.arraycopy(other.weight, 0, weight, 0, ROOMS);
             System.arraycopy(other.wear, 0, wear, 0, DOORS);
-            System.arraycopy(other.doors, 0, doors, 0, DOORS);
+            for (int k = 0; k < DOORS; k++) doors[k] = other.doors[k];
             roomCount = other.roomCount;
             doorCount = other.doorCount;
             light = other.light;

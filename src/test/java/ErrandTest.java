@@ -14,6 +14,7 @@ public final class ErrandTest {
         empty();
         throughOpenDoors();
         creakersWear();
+        eightDoors();
         due.end();
     }
 
@@ -191,5 +192,16 @@ public final class ErrandTest {
         due.is("fourth", x.errand(0, 0, 1), Due.WOKEN);
         due.is("oil", x.oil(0), 4);
         due.is("oiled", x.errand(0, 0, 1), Due.EMPTY);
+    }
+
+    private static void eightDoors() {
+        DoorsBehind x = Due.in("h9,60,0;r6;r1;r1;r1;r1;r1;r1;r1;"
+            + "l0,1,9;l1,2,0;l2,3,0;l3,4,0;l4,5,0;l5,6,0;l6,7,0;l7,0,9;");
+        Due.fill(x, 0, 0, 0, 1, 2, 3, 4, 5, 6, 7);
+        due.is("all round", x.errand(0, 0, 8), 6);
+        due.ledger("all round", x, 100, 101, 102, 103, 104, 105, 106, 107, 300, 207, 206, 205, 204, 203, 202, 201, 200);
+        x.rule(2, 17);
+        due.is("woken by the last", x.errand(0, 0, 8), Due.WOKEN);
+        due.ledger("woken by the last", x, 100, 101, 102, 103, 104, 105, 106, 107, 409, 207, 206, 205, 204, 203, 202, 201, 200);
     }
 }

@@ -285,6 +285,7 @@ public final class ForetoldTest {
             due.is("drawn(" + w[0] + ", 1, 0)", x.drawn(w[0], 1, 0), w[1]);
             due.is("drawn(" + w[0] + ", 1, 1)", x.drawn(w[0], 1, 1), w[2]);
         }
+        due.is("drawn(60, 999999, 1)", x.drawn(60, 999999, 1) >= 0 ? 1 : 0, 1);
         int[][] wrong = {{-1, 1, 0}, {61, 1, 0}, {1, 0, 0}, {1, 1000000, 0}, {1, 1, -1}, {1, 1, 2}};
         for (int[] w : wrong) due.is("drawn(" + w[0] + ", " + w[1] + ", " + w[2] + ")", x.drawn(w[0], w[1], w[2]), Due.BAD);
         due.is("STATE ahead of BAD", new DoorsBehind().drawn(-1, 0, 9), Due.STATE);
