@@ -23,6 +23,14 @@ final class Due {
         }
     }
 
+    void text(String what, String got, String want) {
+        seen++;
+        if (!got.equals(want)) {
+            wrong++;
+            System.out.println(name + ": " + what + " is " + got + ", due is " + want);
+        }
+    }
+
     void ledger(String when, DoorsBehind x, int... want) {
         is(when + ": count(6)", x.count(6), want.length);
         for (int k = 0; k < want.length; k++) is(when + ": ledger(" + k + ")", x.ledger(k), want[k]);
