@@ -244,11 +244,11 @@ public final class EdgesForetoldTest {
 
     /** Every KEYS and every SLEEP tried, one by one. */
     private static void promise19ByTrial() {
-        DoorsBehind x = Due.in("h9,20,0;r0;r0;r0;r9;l0,1,7;k1,2,8;s2,3,4;k0,2,3;");
-        Due.fill(x, 0, 0, 0, 1, 2, 3, 2);
-        for (int[] route : new int[][] {{0, 3}, {3, 2}, {0, 1}}) {
+        for (int[] route : new int[][] {{0, 1}, {0, 2}, {0, 3}, {3, 1}, {3, 2}}) {
+            DoorsBehind x = Due.in("h9,20,0;r0;r0;r0;r9;l0,1,7;k1,2,8;s2,3,4;k0,2,3;");
+            Due.fill(x, 0, 0, 0, 1, 2, 3, 2);
             int fewest = 99, which = Due.NONE, deep = Due.NONE;
-            for (int keys = 0; keys < 64; keys++) {
+            for (int keys = 0; keys <= 63; keys++) {
                 x.rule(0, keys);
                 boolean well = x.would(0, route[0], route[1], 0) < 1000;
                 if (well && Integer.bitCount(keys) < fewest) {
@@ -256,13 +256,12 @@ public final class EdgesForetoldTest {
                     which = keys;
                 }
             }
-            due.is("RING", x.needs(0, route[0], route[1], 0), which == Due.NONE ? Due.NONE : fewest);
-            due.is("RING", x.needs(0, route[0], route[1], 1), which);
-            for (int sleep = 60; sleep >= 58 || sleep <= 12 && sleep > 0; sleep -= sleep == 58 ? 46 : 1) {
+            due.is("RING, how many", x.needs(0, route[0], route[1], 0), which == Due.NONE ? Due.NONE : fewest);
+            due.is("RING, which", x.needs(0, route[0], route[1], 1), which);
+            for (int sleep = 60; sleep >= 1; sleep--) {
                 x.rule(2, sleep);
                 if (x.would(0, route[0], route[1], 0) < 1000) deep = sleep;
             }
-            x.rule(2, 20);
             due.is("DEEP", x.needs(0, route[0], route[1], 2), deep);
         }
     }

@@ -25,6 +25,7 @@ public final class EdgesOfErrandsTest {
         promise10FirstInTime();
         promise10WhatStaysChanged();
         promise10RowsStay();
+        promise10UpToThe512thCall();
         promise11Ledger();
         promise11FullLedger();
         promise11EmptyAsAnErrandBegins();
@@ -378,6 +379,18 @@ public final class EdgesOfErrandsTest {
         x.undo();
         due.is("the same row", x.errand(0, 0, 3), 3);
         due.is("its length", x.drop(0), 3);
+    }
+
+    /** "at most 512 calls": 22 to tell the house, 1 for the row, 487 errands, and the last two. */
+    private static void promise10UpToThe512thCall() {
+        DoorsBehind x = Due.in("h9,60,0;r0;r9;c0,1,9;");
+        x.row(0, 0, 1);
+        due.is("the first errand", x.errand(0, 0, 1), 9);
+        for (int wear = 1; wear < 487; wear++) {
+            due.is("at WEAR " + wear, x.errand(0, 0, 1), 9 + 2 * wear > 60 ? Due.WOKEN : Due.EMPTY);
+        }
+        due.is("LOUD by call 511", x.door(0, 4), 9 + 2 * 487);
+        due.is("oil by call 512", x.oil(0), 487);
     }
 
     // ---- promise 11: "Number i of THE LEDGER (0 the first); NONE."

@@ -318,11 +318,11 @@ public final class ForetoldTest {
     }
 
     private static void nothingChanges() {
-        DoorsBehind x = Due.in(Due.HOUSE);
-        Due.fill(x, 0, 0, 0, 1, 2, 3);
-        x.errand(0, 0, 2);
-        String was = Due.seen(x);
         for (int k = 0; k < 4; k++) {
+            DoorsBehind x = Due.in(Due.HOUSE);
+            Due.fill(x, 0, 0, 0, 1, 2, 3);
+            x.errand(0, 0, 2);
+            String was = Due.seen(x);
             x.would(0, 0, 4, k);
             x.way(3, k - 1);
             x.needs(0, 0, 4, k);
@@ -333,9 +333,9 @@ public final class ForetoldTest {
             x.sticks(0, 0, 4, 3, k);
             x.drawn(60, 7 + k, k % 2);
             due.same("what is foretold", was, x);
+            due.is("keys", x.rule(0, 5), 5);
+            due.is("light", x.rule(1, 5), 5);
+            due.is("sleep", x.rule(2, 30), 30);
         }
-        due.is("keys", x.rule(0, 5), 5);
-        due.is("light", x.rule(1, 5), 5);
-        due.is("sleep", x.rule(2, 30), 30);
     }
 }

@@ -2,6 +2,7 @@ import java.lang.reflect.Constructor;
 import java.lang.reflect.Field;
 import java.lang.reflect.Method;
 import java.lang.reflect.Modifier;
+import java.nio.file.DirectoryStream;
 import java.nio.file.Files;
 import java.nio.file.Path;
 import java.util.ArrayList;
@@ -29,6 +30,7 @@ public final class RulesTest {
         face();
         members(DoorsBehind.class);
         source(Files.readString(Path.of("src/main/java/DoorsBehind.java")));
+        promises();
         System.out.println("RulesTest: " + wrong + " things are wrong");
         if (wrong != 0) System.exit(1);
     }
@@ -82,6 +84,22 @@ public final class RulesTest {
             for (Method m : c.getDeclaredMethods()) hold(m.getParameterCount() <= 7, m + " takes too many");
             hold(c == outer || Modifier.isStatic(c.getModifiers()), c + " is not static");
         }
+    }
+
+    /** Each promise has a test of its edges, and each such test is run. */
+    private static void promises() throws Exception {
+        TreeSet<Integer> tested = new TreeSet<>();
+        try (DirectoryStream<Path> files = Files.newDirectoryStream(Path.of("src/test/java"), "Edges*Test.java")) {
+            for (Path file : files) {
+                String text = Files.readString(file);
+                Matcher m = Pattern.compile("void (promise(\\d+)\\w+)\\(\\) \\{").matcher(text);
+                while (m.find()) {
+                    tested.add(Integer.parseInt(m.group(2)));
+                    hold(text.contains("        " + m.group(1) + "();\n"), m.group(1) + " is not run");
+                }
+            }
+        }
+        for (int k = 1; k <= 33; k++) hold(tested.contains(k), "promise " + k + " has no test of its edges");
     }
 
     private static void source(String text) {
