@@ -27,6 +27,7 @@ public final class EdgesForetoldTest {
         promise20Rooms();
         promise20Edges();
         promise21Share();
+        promise21LeastWeight();
         promise21All();
         promise22Turns();
         promise22WhatTheyTake();
@@ -376,6 +377,18 @@ public final class EdgesForetoldTest {
         for (int n : new int[] {0, 1, 999}) sharesAre(z, n, 0, 0, 0, 0, 0, 0, 0, 0);
         for (int n : new int[] {-1, 1000}) due.is("BAD, though all are empty", z.share(0, n), Due.BAD);
         due.is("share(0, 0) without a house", new DoorsBehind().share(0, 0), Due.BAD);
+    }
+
+    /** All WEIGHT being 0, 1 and 2: "(0, if all are empty)" is for 0 alone. */
+    private static void promise21LeastWeight() {
+        DoorsBehind x = Due.in("h1,1,0;r0;r0;r0;l0,1,0;");
+        for (int n : new int[] {0, 1, 5, 999}) sharesAre(x, n, 0, 0, 0);
+        x.bring(1, 1);
+        for (int n : new int[] {0, 1, 5, 999}) sharesAre(x, n, 0, n, 0);
+        x.bring(2, 1);
+        sharesAre(x, 1, 0, 1, 0);
+        sharesAre(x, 5, 0, 3, 2);
+        sharesAre(x, 999, 0, 500, 499);
     }
 
     /** Nothing is lost: what all get is n; and a room gets its part cut, or 1 more. */
