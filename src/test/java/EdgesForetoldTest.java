@@ -40,6 +40,7 @@ public final class EdgesForetoldTest {
         promise24Fractions();
         promise24Edges();
         promise25Nights();
+        promise25NightsAsItStands();
         promise25Edges();
         due.end();
     }
@@ -607,9 +608,9 @@ public final class EdgesForetoldTest {
 
     // ---- promise 25: "NIGHTS of n ERRANDS (0 to 60) by a SEED (1 to 999999)"
 
-    /** The nights gone through in the house itself: things brought, then errands. */
-    private static void nights(String house, int n, int seed) {
-        DoorsBehind x = Due.in(house), y = Due.in(house);
+    /** The nights gone through in a house itself: things brought, then errands; x and y are made alike. */
+    private static void nights(String house, DoorsBehind x, DoorsBehind y, int n, int seed) {
+        int taken = x.count(4), wear = x.count(5);
         y.row(0, 2, 2);
         int rooms = y.count(2), doors = y.count(1), well = 0;
         long made = seed;
@@ -621,20 +622,45 @@ public final class EdgesForetoldTest {
             if (y.errand(0, 0, 2) > 0) well++;
         }
         String when = "drawn(" + n + ", " + seed + ", ..) in " + house;
-        due.is(when + ": TAKEN", x.drawn(n, seed, 0), y.count(4));
+        due.is(when + ": TAKEN", x.drawn(n, seed, 0), y.count(4) - taken);
         due.is(when + ": how many", x.drawn(n, seed, 1), well);
-        due.is(when + ": nothing is TAKEN", x.count(4), 0);
-        due.is(when + ": no WEAR", x.count(5), 0);
+        due.is(when + ": no more is TAKEN", x.count(4), taken);
+        due.is(when + ": no more WEAR", x.count(5), wear);
     }
+
+    private static final int[] SEEDS = {1, 2, 3, 12345, 127773, 999998, 999999};
 
     private static void promise25Nights() {
         String[] houses = {"h9,60,63;r0;r4;r2;l0,1,0;l1,2,0;", "h9,60,63;r3;r4;l0,1,0;", "h3,9,21;r1;r0;r0;r9;r20;l0,1,2;b0,2,3;c0,3,1;k3,4,2;s0,4,4;",
             "h9,60,63;" + "r0;".repeat(8) + "l0,1,0;l0,2,0;l0,3,0;c0,4,0;k0,5,3;l1,6,0;l2,7,0;b1,2,1;"};
         for (String house : houses) {
-            for (int seed : new int[] {1, 2, 3, 12345, 127773, 999998, 999999}) {
-                for (int n : new int[] {0, 1, 2, 59, 60}) nights(house, n, seed);
+            for (int seed : SEEDS) {
+                for (int n : new int[] {0, 1, 2, 59, 60}) nights(house, Due.in(house), Due.in(house), n, seed);
             }
         }
+    }
+
+    /** The errands are gone with the keys, the light and the sleep that there are, by doors as worn as they are. */
+    private static void promise25NightsAsItStands() {
+        String[] houses = {"h9,60,2;r3;r4;r5;k0,1,0;k1,2,1;l0,2,0;", "h1,60,63;r3;r4;r5;l0,1,0;s1,2,1;b0,2,0;",
+            "h9,3,63;r3;r4;r5;l0,1,3;l1,2,1;c0,2,2;"};
+        for (String house : houses) {
+            for (int seed : SEEDS) nights(house, Due.in(house), Due.in(house), 60, seed);
+        }
+        for (int seed : SEEDS) nights("a worn house", worn(), worn(), 60, seed);
+        DoorsBehind x = Due.in(houses[0]);
+        int with = x.drawn(60, 1, 1);
+        x.rule(0, 63);
+        due.is("with all keys more come well", x.drawn(60, 1, 1) > with ? 1 : 0, 1);
+    }
+
+    /** A creaker that has become as loud as the guard sleeps, and a seal that is broken. */
+    private static DoorsBehind worn() {
+        DoorsBehind x = Due.in("h9,8,63;r3;r4;r5;c0,1,1;s1,2,1;l0,2,0;");
+        Due.fill(x, 0, 0, 0, 1);
+        x.errand(0, 0, 2);
+        for (int k = 0; k < 3; k++) x.errand(0, 0, 1);
+        return x;
     }
 
     private static void promise25Edges() {

@@ -12,6 +12,7 @@ public final class EdgesOfErrandsTest {
         promise10Order();
         promise10NoSuchDoor();
         promise10LeadsFromOrTo();
+        promise10AstrayFirst();
         promise10Keys();
         promise10SealWear();
         promise10Sleep();
@@ -121,6 +122,31 @@ public final class EdgesOfErrandsTest {
         Due.fill(x, 2, 0, 0, 0, 0);
         due.is("there, back and there", x.errand(2, 0, 3), 1);
         due.is("back: nothing lies there", x.errand(2, 0, 2), Due.EMPTY);
+    }
+
+    /** A door that does not lead from there is ASTRAY, whatever else it is: locked, broken, loud, draughty, open. */
+    private static void promise10AstrayFirst() {
+        DoorsBehind x = Due.in("h1,4,2;r0;r0;r9;r9;k2,3,0;s2,3,1;l2,3,5;b2,3,0;s0,1,1;s1,2,7;c0,1,0;");
+        Due.fill(x, 0, 0, 0, 1, 2, 3);
+        for (int door = 0; door < 4; door++) {
+            due.is("not there: door " + door, x.errand(0, door, 1), Due.ASTRAY);
+            due.ledger("not there: door " + door, x, 406);
+        }
+        due.is("nothing was opened", x.count(5), 0);
+        Due.fill(x, 1, 0, 4, 5, 1);
+        due.is("by three seals", x.errand(1, 0, 3), 9);
+        due.is("the seal is broken", x.door(1, 3), 1);
+        due.is("not there, and broken", x.errand(0, 1, 1), Due.ASTRAY);
+        x.oil(4);
+        Due.fill(x, 2, 0, 4, 5, 4);
+        x.oil(5);
+        due.is("open, but not there", x.errand(2, 0, 3), Due.ASTRAY);
+        due.ledger("open, but not there", x, 104, 105, 406, 205, 204);
+        x.oil(4);
+        x.oil(5);
+        Due.fill(x, 3, 0, 6, 4, 6, 5);
+        due.is("open, and there again", x.would(3, 0, 4, 0), 9);
+        due.is("open, and there again: the ROOM", x.would(3, 0, 4, 4), 2);
     }
 
     /** "its KEY (N by 6, what is left over) among KEYS, else LOCKED" */

@@ -26,7 +26,6 @@ public final class RefusedTest {
         faults();
         asked();
         foretold();
-        whatChangesIsSeen();
         due.end();
     }
 
@@ -267,7 +266,7 @@ public final class RefusedTest {
         for (int letter : new int[] {LEAST, -1, 256, MOST}) {
             twin.leaves("feed(" + letter + "), BAD ahead of FULL", Twin::fullTape, x -> x.feed(letter), Due.BAD, HELD);
         }
-        twin.changes("feed of 110", Twin::nearlyFullTape, x -> x.feed('1'), 110);
+        twin.changes("feed of 110", Twin::nearlyFullTape, x -> x.feed('1'), 110, "tape");
     }
 
     // ---- FINDINGS of calls that are no errand; an errand that finds NULL or PLACE does not begin
@@ -423,36 +422,5 @@ public final class RefusedTest {
             long want = Twin.lived().drawn(n, seed, what);
             leaves("drawn(" + n + ", " + seed + ", " + what + ")", x -> x.drawn(n, seed, asked), want, HELD);
         }
-    }
-
-    // ---- that the twins would show a change: calls that do change something
-
-    private static void changes(String call, Twin.Call c, long want) {
-        twin.changes(call, Twin::lived, c, want);
-    }
-
-    private static void whatChangesIsSeen() {
-        changes("row(0, 1, 5)", x -> x.row(0, 1, 5), 5);
-        changes("row(3, 2, 2)", x -> x.row(3, 2, 2), 2);
-        changes("row(5, 0, 0)", x -> x.row(5, 0, 0), 0);
-        changes("set(0, 4, 3)", x -> x.set(0, 4, 3), 3);
-        changes("set(7, 39, 1)", x -> x.set(7, 39, 1), 1);
-        changes("copy(0, 1, 7, 0, 1)", x -> x.copy(0, 1, 7, 0, 1), 1);
-        changes("drop(2)", x -> x.drop(2), 0);
-        changes("feed(';')", x -> x.feed(';'), 21);
-        changes("house()", x -> x.house(), 1);
-        changes("undo()", x -> x.undo(), 6);
-        changes("errand(0, 3, 1)", x -> x.errand(0, 3, 1), 20);
-        changes("errand(3, 0, 1), astray at once", x -> x.errand(3, 0, 1), Due.ASTRAY);
-        changes("oil(2)", x -> x.oil(2), 1);
-        changes("bring(3, 20)", x -> x.bring(3, 20), 71);
-        changes("rule(0, 37)", x -> x.rule(0, 37), 36);
-        changes("rule(1, 8)", x -> x.rule(1, 8), 9);
-        changes("rule(2, 29)", x -> x.rule(2, 29), 30);
-        changes("image(0)", x -> x.image(0), 1);
-        changes("image(1)", x -> x.image(1), 1);
-        changes("restore(0)", x -> x.restore(0), 1);
-        changes("restore(1)", x -> x.restore(1), 1);
-        changes("ask(0, 1)", x -> x.ask(0, 1), 0);
     }
 }

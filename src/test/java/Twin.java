@@ -1,6 +1,12 @@
+import java.util.LinkedHashMap;
+import java.util.List;
+import java.util.Map;
+import java.util.TreeSet;
+import java.util.function.IntUnaryOperator;
+
 /**
  * Two objects made alike, one of which takes one call more: what that call changed is seen by asking both for all
- * that there is (rows, tape, house, acts, images, ledger, trace). Asking changes both, but both alike.
+ * that there is, part by part. Asking changes both, but both alike.
  */
 final class Twin {
     /** What makes an object, the same one each time; the latest call with a row must have found PLACE. */
@@ -32,14 +38,22 @@ final class Twin {
         due.is(call, more.on(x), want);
         due.is("status() behind " + call, x.status(), status);
         due.is("status() without " + call, y.status(), PLACE);
-        due.text("all behind " + call, all(x), all(y));
+        Map<String, String> with = parts(x), without = parts(y);
+        with.remove("status");
+        without.remove("status");
+        due.text("all behind " + call, with.toString(), without.toString());
     }
 
-    /** The call answers so, and something is not as if it had not been made. */
-    void changes(String call, Maker maker, Call more, long want) {
+    /** The call answers so, and of all parts these and no others are not as if it had not been made. */
+    void changes(String call, Maker maker, Call more, long want, String... changed) {
         DoorsBehind x = maker.make(), y = maker.make();
         due.is(call, more.on(x), want);
-        due.is(call + " is seen", all(x).equals(all(y)) ? 0 : 1, 1);
+        Map<String, String> with = parts(x), without = parts(y);
+        TreeSet<String> differ = new TreeSet<>();
+        for (String part : with.keySet()) {
+            if (!with.get(part).equals(without.get(part))) differ.add(part);
+        }
+        due.text("what " + call + " changes", differ.toString(), new TreeSet<>(List.of(changed)).toString());
     }
 
     // ---- makers, each of some 130 calls at most
@@ -107,59 +121,59 @@ final class Twin {
         return x;
     }
 
-    // ---- all that can be asked, some 320 calls
+    // ---- all that can be asked, by parts, some 290 calls: first what changes nothing, then the rest
 
-    private static String all(DoorsBehind x) {
-        StringBuilder s = new StringBuilder(Due.seen(x));
-        s.append(" fault ").append(x.fault());
-        s.append(" trace");
-        for (int k = 0; k < 7; k++) add(s, x.trace(k));
-        s.append(" rules");
-        rules(s, x);
-        for (int k = 0; k < 3; k++) add(s, x.undo());
-        s.append(" acts");
-        acts(s, x);
+    private static Map<String, String> parts(DoorsBehind x) {
+        Map<String, String> all = new LinkedHashMap<>();
+        all.put("status", "" + x.status());
+        all.put("fault", "" + x.fault());
+        all.put("ledger", numbers(19, k -> k == 18 ? x.count(6) : x.ledger(k)));
+        all.put("trace", numbers(7, x::trace));
+        all.put("doors", doors(x));
+        all.put("weight", numbers(9, k -> k == 8 ? x.count(3) : x.room(k, 0)));
+        all.put("wear", numbers(17, k -> k == 16 ? x.count(5) : x.door(k / 2, 3 + k % 2)));
+        all.put("taken", "" + x.count(4));
+        int rows = x.count(0), acts = x.count(7), tape = x.count(8);
+        all.put("rules", rules(x));
+        for (int k = 0; k < 3; k++) x.undo();
+        all.put("acts", acts + numbers(32, k -> k % 4 == 0 ? x.undo() : x.count(2 + k % 4)));
         for (int k = 0; k < 2; k++) {
-            s.append(" image ").append(k).append(x.restore(k));
-            house(s, x);
-            rules(s, x);
+            all.put("image" + k, x.restore(k) + house(x) + rules(x));
         }
-        s.append(" tape");
-        add(s, x.house());
-        house(s, x);
-        s.append(" rows");
-        rows(s, x);
+        all.put("tape", tape + " " + x.house() + house(x));
+        all.put("rows", rows + rows(x));
+        return all;
+    }
+
+    private static String numbers(int many, IntUnaryOperator number) {
+        StringBuilder s = new StringBuilder();
+        for (int k = 0; k < many; k++) s.append(' ').append(number.applyAsInt(k));
         return s.toString();
     }
 
-    private static void add(StringBuilder s, long answer) {
-        s.append(' ').append(answer);
+    private static String doors(DoorsBehind x) {
+        int[] fixed = {0, 1, 2, 5};
+        return numbers(2, k -> x.count(1 + k)) + numbers(8, x::kind) + numbers(8, k -> x.room(k, 1))
+            + numbers(32, k -> x.door(k / 4, fixed[k % 4]));
     }
 
-    private static void rules(StringBuilder s, DoorsBehind x) {
-        for (int k = 0; k < 3; k++) add(s, x.rule(k, 1));
+    private static String rules(DoorsBehind x) {
+        return numbers(3, k -> x.rule(k, 1));
     }
 
-    private static void acts(StringBuilder s, DoorsBehind x) {
-        for (int k = 0; k < 8; k++) {
-            add(s, x.undo());
-            for (int c = 3; c < 6; c++) add(s, x.count(c));
-        }
-    }
-
-    private static void house(StringBuilder s, DoorsBehind x) {
-        for (int c = 1; c < 6; c++) add(s, x.count(c));
-        add(s, x.kind(0));
+    private static String house(DoorsBehind x) {
+        return numbers(5, k -> x.count(1 + k)) + numbers(1, x::kind);
     }
 
     /** Which items are doors is seen in a star; the lane by what is left of a number; how many by dropping it. */
-    private static void rows(StringBuilder s, DoorsBehind x) {
+    private static String rows(DoorsBehind x) {
         Due.read(x, STAR);
+        StringBuilder s = new StringBuilder();
         int[] places = {0, 1, 2, 4, 39};
         for (int row = 0; row < 8; row++) {
-            for (int i : places) add(s, x.would(row, i, 1, 0));
-            add(s, x.set(row, 0, 40000));
-            add(s, x.drop(row));
+            for (int i : places) s.append(' ').append(x.would(row, i, 1, 0));
+            s.append(' ').append(x.set(row, 0, 40000)).append(' ').append(x.drop(row));
         }
+        return s.toString();
     }
 }
