@@ -37,8 +37,10 @@ public final class EdgesForetoldTest {
         promise23Numbers();
         promise23Keys();
         promise23AnotherDoor();
+        promise23WornDoors();
         promise24Fractions();
         promise24Edges();
+        promise24AsItStands();
         promise25Nights();
         promise25NightsAsItStands();
         promise25Edges();
@@ -561,6 +563,39 @@ public final class EdgesForetoldTest {
         due.is("a door that is gone through twice", x.who(0, 1, 0, 2, 2, 3), 63);
     }
 
+    /** Numbers and keys are tried with the wear that the doors have. */
+    private static void promise23WornDoors() {
+        DoorsBehind x = Due.in("h9,6,63;r0;r7;r3;c0,1,2;s0,2,4;");
+        Due.fill(x, 0, 0, 0, 1);
+        x.errand(0, 0, 1);
+        x.errand(0, 1, 1);
+        x.bring(1, 5);
+        x.bring(2, 4);
+        due.is("a creaker of WEAR 1: N up to 4", x.who(0, 1, 0, 0, 1, 5), 31);
+        due.is("a creaker of WEAR 1: WOKEN", x.who(0, 1, 0, 0, 1, 1009), 1023 - 31);
+        due.is("a broken seal, of any N", x.who(1, 1, 0, 1, 1, 1008), 1023);
+        due.is("a broken seal: never well", x.who(1, 1, 0, 1, 1, 4), 0);
+        due.is("KEYS of a broken seal: BROKEN", x.who(1, 2, 0, 1, 1, 1008), 32);
+        due.is("KEYS of a broken seal: BROKEN, the least", x.who(1, 3, 0, 1, 1, 1008), 16);
+        due.is("KEYS of a broken seal: LOCKED", x.who(1, 2, 0, 1, 1, 1007), 32);
+        due.is("KEYS of a broken seal: LOCKED, the least", x.who(1, 3, 0, 1, 1, 1007), 0);
+        due.is("KEYS of a broken seal: well", x.who(1, 2, 0, 1, 1, 4), 0);
+        due.is("KEYS of a broken seal: well, the least", x.who(1, 3, 0, 1, 1, 4), Due.NONE);
+        x.rule(0, 1);
+        due.is("with the key 0: BROKEN", x.who(1, 1, 0, 1, 1, 1008), 1 + 64);
+        due.is("with the key 0: LOCKED", x.who(1, 1, 0, 1, 1, 1007), 1023 - 65);
+        x.rule(2, 3);
+        due.is("LOUD 4 at SLEEP 3, with any keys", x.who(0, 2, 0, 0, 1, 1009), 64);
+        due.is("LOUD 4 at SLEEP 3, with any keys: well", x.who(0, 2, 0, 0, 1, 5), 0);
+        DoorsBehind y = Due.in("h1,60,0;r0;r0;r8;l0,1,0;k1,2,3;");
+        Due.fill(y, 0, 0, 0, 1);
+        due.is("DRAUGHT 2 at LIGHT 1: DARK with the key", y.who(0, 2, 0, 0, 2, 1010), 32);
+        due.is("DRAUGHT 2 at LIGHT 1: the least", y.who(0, 3, 0, 0, 2, 1010), 8);
+        due.is("DRAUGHT 2 at LIGHT 1: well", y.who(0, 2, 0, 0, 2, 8), 0);
+        due.is("DRAUGHT 2 at LIGHT 1: of which kind the lock is", y.who(1, 0, 0, 0, 2, 1010), 2 + 4 + 8);
+        due.is("DRAUGHT 2 at LIGHT 1: LOCKED by any number", y.who(1, 1, 0, 0, 2, 1007), 1023);
+    }
+
     // ---- promise 24: "STICKS by p of 10 (0 to 10)": "a fraction", "0 is 0 by 1"
 
     private static void promise24Fractions() {
@@ -604,6 +639,33 @@ public final class EdgesForetoldTest {
             due.is("PLACE", x.sticks(0, 8, 0, 1, what), Due.PLACE);
             due.is("STATE ahead of BAD", new DoorsBehind().sticks(-1, 0, 9, 11, what + 2), Due.STATE);
         }
+    }
+
+    private static void likely(String when, DoorsBehind x, int i, int n, int above, int below) {
+        due.is(when + ": above", x.sticks(0, i, n, 3, 0), above);
+        due.is(when + ": below", x.sticks(0, i, n, 3, 1), below);
+        due.is(when + ": status()", x.status(), 0);
+    }
+
+    /** What does not come well even if no door sticks is never likely: WOKEN, DARK, BROKEN, at their edges. */
+    private static void promise24AsItStands() {
+        DoorsBehind x = Due.in("h3,8,2;r0;r5;r6;l0,1,5;b1,2,7;s0,2,1;");
+        Due.fill(x, 0, 0, 0, 1, 2);
+        likely("NOISE 8 at SLEEP 8, DRAUGHT 3 at LIGHT 3", x, 0, 2, 49, 100);
+        x.rule(2, 7);
+        likely("NOISE 8 at SLEEP 7", x, 0, 2, 0, 1);
+        x.undo();
+        x.rule(1, 2);
+        likely("DRAUGHT 3 at LIGHT 2", x, 0, 2, 0, 1);
+        x.undo();
+        likely("a seal", x, 2, 1, 7, 10);
+        x.errand(0, 2, 1);
+        x.bring(2, 1);
+        likely("a broken seal", x, 2, 1, 0, 1);
+        x.oil(2);
+        likely("a seal that is oiled", x, 2, 1, 7, 10);
+        x.rule(0, 61);
+        likely("a seal without its key", x, 2, 1, 0, 1);
     }
 
     // ---- promise 25: "NIGHTS of n ERRANDS (0 to 60) by a SEED (1 to 999999)"

@@ -32,6 +32,7 @@ public final class EdgesOfErrandsTest {
         promise11EmptyAsAnErrandBegins();
         promise15Door();
         promise15LoudNow();
+        promise15Gaps();
         promise16Room();
         promise16Bits();
         due.end();
@@ -502,6 +503,21 @@ public final class EdgesOfErrandsTest {
         x.undo();
         x.undo();
         due.is("LOUD when it is undone", x.door(2, 4), 9);
+    }
+
+    /** "GAP: of a bolt 2, of a seal 0, of all others 1", of any N and any wear. */
+    private static void promise15Gaps() {
+        int[] gaps = {1, 2, 1, 1, 0};
+        for (int n = 0; n <= 9; n++) {
+            DoorsBehind x = Due.in("h9,60,63;r0;r0;l0,1,n;b0,1,n;c0,1,n;k0,1,n;s0,1,n;".replace("n", "" + n));
+            Due.fill(x, 0, 0, 0, 1, 2, 3, 4);
+            for (int d = 0; d < 5; d++) {
+                due.is("GAP of door " + d + ", N " + n, x.door(d, 5), gaps[d]);
+                due.is("DRAUGHT of door " + d + ", N " + n, x.would(0, d, 1, 2), gaps[d]);
+                x.errand(0, d, 1);
+                due.is("GAP of door " + d + ", worn", x.door(d, 5), gaps[d]);
+            }
+        }
     }
 
     // ---- promise 16: "0 WEIGHT, 1 DOORS (bits) that lead from it, or to it. BAD."
